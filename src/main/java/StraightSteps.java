@@ -835,7 +835,7 @@ public final class StraightSteps {
 
     /** The corners of the hull of a heap's middles, against the clock from the leftmost, lowest one. */
     private static final class Hull {
-        /** A corner is the lowest or the highest of its column. */
+        /** Each column gives its lowest and its highest field. */
         private static final int MOST_CORNERS = 2 * MOST_SIDE;
 
         private final int[] xs = new int[MOST_CORNERS];
@@ -859,7 +859,8 @@ public final class StraightSteps {
             for (int x = floor.width() - 1; x >= 0; x--) {
                 addHighest(floor, x, turn);
             }
-            if (corners > 1 && isAt(corners - 1, xs[0], ys[0])) {
+            // The leftmost column closes the rim: with one field alone it would be told twice.
+            if (corners > 1 && xs[corners - 1] == xs[0] && ys[corners - 1] == ys[0]) {
                 corners--;
             }
         }
@@ -886,9 +887,7 @@ public final class StraightSteps {
         private void addHighest(Ground floor, int x, int turn) {
             for (int y = floor.height() - 1; y >= 0; y--) {
                 if (floor.holdsAt(x, y)) {
-                    if (!isAt(corners - 1, x, y)) {
-                        add(x, y, turn);
-                    }
+                    add(x, y, turn);
                     return;
                 }
             }
@@ -904,10 +903,6 @@ public final class StraightSteps {
                 ys[corners] = y;
                 corners++;
             }
-        }
-
-        private boolean isAt(int corner, int x, int y) {
-            return corner >= 0 && corner < MOST_CORNERS && xs[corner] == x && ys[corner] == y;
         }
 
         /** Above 0: the point lies to the left of the way from corner a to corner b; 0: in its line. */
@@ -982,7 +977,8 @@ public final class StraightSteps {
                 return false;
             }
             for (int other = 0; other < floor.fields(); other++) {
-                if (other != field && ballHolds(floor, other, field)) {
+                // Only a deeper one holds it, and so never it itself; like ones do not hold one another.
+                if (depth[other] > depth[field] && ballHolds(floor, other, field)) {
                     return false;
                 }
             }
@@ -1004,9 +1000,9 @@ public final class StraightSteps {
 
     /** The first point, in halves, to which the whole heap is nearer than all else of the ground. */
     private static final class Disc {
-        private int atX;
-        private int atY;
-        private int square;
+        private int foundX;
+        private int foundY;
+        private int foundSquare;
 
         boolean find(Ground floor) {
             if (floor.heapSize() == 0) {
@@ -1014,11 +1010,11 @@ public final class StraightSteps {
             }
             for (int y = 0; y <= 2 * floor.height() - 2; y++) {
                 for (int x = 0; x <= 2 * floor.width() - 2; x++) {
-                    int found = squareAbout(floor, x, y);
-                    if (found != NONE) {
-                        atX = x;
-                        atY = y;
-                        square = found;
+                    int square = squareAbout(floor, x, y);
+                    if (square != NONE) {
+                        foundX = x;
+                        foundY = y;
+                        foundSquare = square;
                         return true;
                     }
                 }
@@ -1027,33 +1023,32 @@ public final class StraightSteps {
         }
 
         int middleX() {
-            return atX;
+            return foundX;
         }
 
         int middleY() {
-            return atY;
+            return foundY;
         }
 
         int greatestSquare() {
-            return square;
+            return foundSquare;
         }
 
         /** The greatest square of the way to a field of the heap; NONE: another field is as near. */
         private static int squareAbout(Ground floor, int atX, int atY) {
             int farthest = 0;
             int nearest = Integer.MAX_VALUE;
-            for (int y = 0; y < floor.height(); y++) {
-                for (int x = 0; x < floor.width(); x++) {
-                    int dx = 2 * x - atX;
-                    int dy = 2 * y - atY;
-                    if (floor.holdsAt(x, y)) {
-                        farthest = Math.max(farthest, dx * dx + dy * dy);
-                    } else {
-                        nearest = Math.min(nearest, dx * dx + dy * dy);
-                    }
-                    if (farthest >= nearest) {
-                        return NONE;
-                    }
+            for (int f = 0; f < floor.fields(); f++) {
+                int dx = 2 * floor.columnOf(f) - atX;
+                int dy = 2 * floor.lineOf(f) - atY;
+                int square = dx * dx + dy * dy;
+                if (floor.holds(f)) {
+                    farthest = Math.max(farthest, square);
+                } else {
+                    nearest = Math.min(nearest, square);
+                }
+                if (farthest >= nearest) {
+                    return NONE;
                 }
             }
             return farthest;

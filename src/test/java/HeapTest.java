@@ -297,14 +297,15 @@ public final class HeapTest {
         discIs(Checks.heap("..##"), 5, 0, 1);
         discIs(Checks.heap("#", "#", ".", "."), 0, 5, 1);
         same("20 all of 12 by 12", allOf(12, 12).disc(2), 22 * 22 * 2);
-        firstByLine();
+        discFirst();
     }
 
-    /** Points that are good lie beside one another: the first of them counts. */
-    private static void firstByLine() {
+    /** Where several points are good, y is looked at before x: in the last heap 4, 1 comes ahead of 3, 2. */
+    private static void discFirst() {
         discIs(Checks.heap("##.."), 0, 0, 4);
         discIs(Checks.heap("###."), 0, 0, 16);
         discIs(Checks.heap(".###"), 4, 0, 4);
+        discIs(Checks.heap(".##", ".##", ".##"), 4, 1, 13);
     }
 
     private static StraightSteps allOf(int w, int h) {
@@ -365,8 +366,22 @@ public final class HeapTest {
         corners(Checks.heap("..#", ".##", "###"), 0, 2, 8);
         corners(Checks.heap(".##.", "#..#", "#..#", ".##."), 4, 1, 2, 7, 11, 14, 13, 8);
         corners(Checks.heap("#...#", ".....", "..#.."), 10, 2, 14);
+        roundHull();
         corners(allOf(12, 12), 0, 11, 143, 132);
         corners(allOf(1, 12), 0, 11);
+    }
+
+    /** As many corners as a hull has here, with fields on its rim and within that are none. */
+    private static void roundHull() {
+        int[] round = {40, 21, 12, 4, 5, 17, 28, 49, 59, 78, 87, 95, 94, 82, 71, 50};
+        StraightSteps x = new StraightSteps();
+        same("22 ground", x.ground(10, 10), 100);
+        for (int f : round) {
+            same("22 set", x.set(f, true), 0);
+        }
+        corners(x, round);
+        same("22 set within", x.set(44, true), 0);
+        corners(x, round);
     }
 
     private static void count() {
