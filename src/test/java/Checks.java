@@ -60,6 +60,16 @@ final class Checks {
         }
     }
 
+    /** An object whose heap is its whole ground. */
+    static StraightSteps allOf(int w, int h) {
+        StraightSteps x = new StraightSteps();
+        same("ground", x.ground(w, h), (long) w * h);
+        for (int f = 0; f < w * h; f++) {
+            same("set", x.set(f, true), 0);
+        }
+        return x;
+    }
+
     /** Compares the whole heap with a picture. */
     static void pictured(String what, StraightSteps x, String... lines) {
         int h = lines.length;
@@ -73,6 +83,4 @@ final class Checks {
             }
         }
     }
-
-    static final int[] NO_FIELDS = {-1, Integer.MIN_VALUE, Integer.MAX_VALUE};
 }

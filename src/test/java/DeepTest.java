@@ -22,17 +22,8 @@ public final class DeepTest {
         Checks.same(what, got, want);
     }
 
-    private static StraightSteps allOf(int w, int h) {
-        StraightSteps x = new StraightSteps();
-        same("ground", x.ground(w, h), (long) w * h);
-        for (int f = 0; f < w * h; f++) {
-            same("set", x.set(f, true), 0);
-        }
-        return x;
-    }
-
     private static void deep() {
-        StraightSteps x = allOf(5, 4);
+        StraightSteps x = Checks.allOf(5, 4);
         int[] due = {1, 1, 1, 1, 1, 1, 4, 4, 4, 1, 1, 4, 4, 4, 1, 1, 1, 1, 1, 1};
         for (int f = 0; f < 20; f++) {
             same("24 deep " + f, x.deep(f), due[f]);
@@ -44,7 +35,7 @@ public final class DeepTest {
         same("24 not of it", x.deep(0), 0);
         same("24 across a corner", x.deep(6), 2);
         same("24 as before", x.deep(7), 4);
-        StraightSteps big = allOf(11, 11);
+        StraightSteps big = Checks.allOf(11, 11);
         same("24 middle", big.deep(60), 36);
         same("24 take far", big.set(60 + 33 + 4, false), 1);
         same("24 three and four", big.deep(60), 25);
@@ -60,14 +51,14 @@ public final class DeepTest {
         same("25 set", x.set(63, true), 0);
         same("25 one", x.deepest(false), 1);
         same("25 one, field", x.deepest(true), 63);
-        same("25 all of 5 by 4", allOf(5, 4).deepest(false), 4);
-        same("25 first of 5 by 4", allOf(5, 4).deepest(true), 6);
-        same("25 all of 12 by 12", allOf(12, 12).deepest(false), 36);
-        same("25 first of 12 by 12", allOf(12, 12).deepest(true), 65);
+        same("25 all of 5 by 4", Checks.allOf(5, 4).deepest(false), 4);
+        same("25 first of 5 by 4", Checks.allOf(5, 4).deepest(true), 6);
+        same("25 all of 12 by 12", Checks.allOf(12, 12).deepest(false), 36);
+        same("25 first of 12 by 12", Checks.allOf(12, 12).deepest(true), 65);
     }
 
     private static void needed() {
-        StraightSteps x = allOf(3, 3);
+        StraightSteps x = Checks.allOf(3, 3);
         int[] due = {1, 0, 1, 0, 1, 0, 1, 0, 1};
         for (int f = 0; f < 9; f++) {
             same("26 needed " + f, x.needed(f), due[f]);
@@ -78,10 +69,10 @@ public final class DeepTest {
         same("26 take", x.set(4, false), 1);
         same("26 not of it", x.needed(4), 0);
         same("26 held no more", x.needed(1), 1);
-        StraightSteps line = allOf(5, 3);
+        StraightSteps line = Checks.allOf(5, 3);
         same("26 like deep ones do not hold one another", line.needed(7), 1);
         same("26 held by one of them", line.needed(2), 0);
-        StraightSteps big = allOf(9, 9);
+        StraightSteps big = Checks.allOf(9, 9);
         same("26 middle", big.needed(40), 1);
         same("26 straight under the middle", big.needed(31), 0);
         same("26 aslant of the middle", big.needed(30), 1);
@@ -90,10 +81,10 @@ public final class DeepTest {
     private static void balls() {
         same("27 none", new StraightSteps().balls(), 0);
         same("27 one", Checks.heap("#").balls(), 1);
-        same("27 all of 3 by 3", allOf(3, 3).balls(), 5);
-        same("27 all of 2 by 2", allOf(2, 2).balls(), 4);
-        same("27 all of 5 by 3", allOf(5, 3).balls(), 3 + 4);
-        same("27 all of 12 by 1", allOf(12, 1).balls(), 12);
+        same("27 all of 3 by 3", Checks.allOf(3, 3).balls(), 5);
+        same("27 all of 2 by 2", Checks.allOf(2, 2).balls(), 4);
+        same("27 all of 5 by 3", Checks.allOf(5, 3).balls(), 3 + 4);
+        same("27 all of 12 by 1", Checks.allOf(12, 1).balls(), 12);
     }
 
     private static void looseIs(int so, String... lines) {
@@ -119,12 +110,12 @@ public final class DeepTest {
         looseIs(0, "###", "###", "##.");
         looseIs(0, ".#.", "##.", "..#");
         looseIs(0, "###", "...", "...");
-        StraightSteps edge = allOf(2, 1);
+        StraightSteps edge = Checks.allOf(2, 1);
         same("28 at the edge", edge.loose(0), 1);
         same("28 alone", Checks.heap("#").loose(0), 0);
-        same("28 corner of all", allOf(4, 4).loose(0), 1);
-        same("28 side of all", allOf(4, 4).loose(7), 1);
-        same("28 within all", allOf(4, 4).loose(5), 0);
+        same("28 corner of all", Checks.allOf(4, 4).loose(0), 1);
+        same("28 side of all", Checks.allOf(4, 4).loose(7), 1);
+        same("28 within all", Checks.allOf(4, 4).loose(5), 0);
         StraightSteps line = Checks.heap("#..", "###");
         for (int f : new int[] {6, -1, LEAST, MOST}) {
             same("28 loose " + f, line.loose(f), UNKNOWN);
@@ -140,14 +131,14 @@ public final class DeepTest {
         same("29 line", line.thinning(), 0);
         StraightSteps ring = Checks.heap(".#.", "#.#", ".#.");
         same("29 ring", ring.thinning(), 0);
-        StraightSteps square = allOf(3, 3);
+        StraightSteps square = Checks.allOf(3, 3);
         same("29 square", square.thinning(), 7);
         Checks.pictured("29 square", square, "..#", ".#.", "...");
     }
 
     /** Who was within at the beginning stays, though it stands free when its turn comes. */
     private static void thinningInOrder() {
-        StraightSteps x = allOf(5, 5);
+        StraightSteps x = Checks.allOf(5, 5);
         int taken = x.thinning();
         same("29 fields left", x.heap(0), 25 - taken);
         for (int f : new int[] {6, 7, 8, 11, 12, 13, 16, 17, 18}) {
@@ -172,8 +163,8 @@ public final class DeepTest {
 
     private static void thin() {
         same("30 none", new StraightSteps().thin(), 0);
-        StraightSteps x = allOf(12, 12);
-        int first = allOf(12, 12).thinning();
+        StraightSteps x = Checks.allOf(12, 12);
+        int first = Checks.allOf(12, 12).thinning();
         int all = x.thin();
         same("30 all taken", x.heap(0), 144 - all);
         Checks.holds("30 more than one thinning", all > first);

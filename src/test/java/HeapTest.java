@@ -296,7 +296,7 @@ public final class HeapTest {
         discIs(Checks.heap("#.#"), NONE, NONE, NONE);
         discIs(Checks.heap("..##"), 5, 0, 1);
         discIs(Checks.heap("#", "#", ".", "."), 0, 5, 1);
-        same("20 all of 12 by 12", allOf(12, 12).disc(2), 22 * 22 * 2);
+        same("20 all of 12 by 12", Checks.allOf(12, 12).disc(2), 22 * 22 * 2);
         discFirst();
     }
 
@@ -306,15 +306,6 @@ public final class HeapTest {
         discIs(Checks.heap("###."), 0, 0, 16);
         discIs(Checks.heap(".###"), 4, 0, 4);
         discIs(Checks.heap(".##", ".##", ".##"), 4, 1, 13);
-    }
-
-    private static StraightSteps allOf(int w, int h) {
-        StraightSteps x = new StraightSteps();
-        same("ground", x.ground(w, h), (long) w * h);
-        for (int f = 0; f < w * h; f++) {
-            same("set", x.set(f, true), 0);
-        }
-        return x;
     }
 
     private static void part() {
@@ -367,8 +358,8 @@ public final class HeapTest {
         corners(Checks.heap(".##.", "#..#", "#..#", ".##."), 4, 1, 2, 7, 11, 14, 13, 8);
         corners(Checks.heap("#...#", ".....", "..#.."), 10, 2, 14);
         roundHull();
-        corners(allOf(12, 12), 0, 11, 143, 132);
-        corners(allOf(1, 12), 0, 11);
+        corners(Checks.allOf(12, 12), 0, 11, 143, 132);
+        corners(Checks.allOf(1, 12), 0, 11);
     }
 
     /** As many corners as a hull has here, with fields on its rim and within that are none. */
@@ -403,7 +394,7 @@ public final class HeapTest {
         same("31 edge", x.count(4), 6);
         same("31 a line is all edge", Checks.heap("##.#").count(4), 3);
         same("31 a column is all edge", Checks.heap("#", "#", "#").count(4), 3);
-        same("31 edge of all", allOf(12, 12).count(4), 44);
-        same("31 edge of 8 by 8", allOf(8, 8).count(4), 28);
+        same("31 edge of all", Checks.allOf(12, 12).count(4), 44);
+        same("31 edge of 8 by 8", Checks.allOf(8, 8).count(4), 28);
     }
 }
