@@ -39,10 +39,7 @@ public final class FaceTest {
 
     private static void methods() {
         Set<String> seen = new TreeSet<>();
-        Set<String> names = new TreeSet<>();
-        for (String method : FACE) {
-            names.add(method.substring(4, method.indexOf('(')));
-        }
+        Set<String> names = namesOfFace();
         for (Method m : StraightSteps.class.getDeclaredMethods()) {
             if (Modifier.isPrivate(m.getModifiers())) {
                 Checks.holds("private " + m.getName() + " has a name of its own", !names.contains(m.getName()));
@@ -58,6 +55,14 @@ public final class FaceTest {
         Checks.holds("it is public", Modifier.isPublic(makers[0].getModifiers()));
         int modifiers = StraightSteps.class.getModifiers();
         Checks.holds("public and final", Modifier.isPublic(modifiers) && Modifier.isFinal(modifiers));
+    }
+
+    private static Set<String> namesOfFace() {
+        Set<String> names = new TreeSet<>();
+        for (String method : FACE) {
+            names.add(method.substring(4, method.indexOf('(')));
+        }
+        return names;
     }
 
     private static String written(Method m) {
@@ -96,6 +101,8 @@ public final class FaceTest {
             }
             for (Method m : c.getDeclaredMethods()) {
                 Checks.holds(c + "." + m.getName() + " takes at most seven", m.getParameterCount() <= 7);
+                Checks.holds(c + "." + m.getName() + " has a name of its own",
+                    !Modifier.isPrivate(m.getModifiers()) || !namesOfFace().contains(m.getName()));
             }
         }
     }
