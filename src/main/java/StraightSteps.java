@@ -930,10 +930,10 @@ public final class StraightSteps {
             boolean above = false;
             boolean under = false;
             for (int c = 0; c < corners; c++) {
-                right |= x >= xs[c];
-                left |= x <= xs[c];
-                above |= y >= ys[c];
-                under |= y <= ys[c];
+                right = right || x >= xs[c];
+                left = left || x <= xs[c];
+                above = above || y >= ys[c];
+                under = under || y <= ys[c];
             }
             return right && left && above && under;
         }
@@ -1000,6 +1000,9 @@ public final class StraightSteps {
 
     /** The first point, in halves, to which the whole heap is nearer than all else of the ground. */
     private static final class Disc {
+        /** The squares of two longest sides, in halves: no way within the ground has so great a square. */
+        private static final int BEYOND_ALL = 8 * MOST_FIELDS;
+
         private int foundX;
         private int foundY;
         private int foundSquare;
@@ -1037,7 +1040,7 @@ public final class StraightSteps {
         /** The greatest square of the way to a field of the heap; NONE: another field is as near. */
         private static int squareAbout(Ground floor, int atX, int atY) {
             int farthest = 0;
-            int nearest = Integer.MAX_VALUE;
+            int nearest = BEYOND_ALL;
             for (int f = 0; f < floor.fields(); f++) {
                 int dx = 2 * floor.columnOf(f) - atX;
                 int dy = 2 * floor.lineOf(f) - atY;

@@ -1,14 +1,19 @@
-/** Every sentence of the document that names a boundary: too small, too large, empty, full, round the end, refused. */
+import java.io.IOException;
+
+/** Every sentence of the document: boundaries (too small, too large, empty, full, refused), and what terms mean. */
 public final class BoundaryTest {
     private BoundaryTest() {
     }
 
-    public static void main(String[] args) {
+    public static void main(String[] args) throws IOException {
         RowEdges.all();
         HeapEdges.all();
         ShapeEdges.all();
         DeepEdges.all();
         Refusals.all();
+        RowMeanings.all();
+        HeapMeanings.all();
+        FaceWords.all();
         Sentences.allAreNamed();
         Checks.end("BoundaryTest");
     }

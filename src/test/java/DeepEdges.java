@@ -34,8 +34,8 @@ final class DeepEdges {
         for (int f : new int[] {9, 63, -1, LEAST, MOST}) {
             due("deep(" + f + ")", x.deep(f), UNKNOWN);
         }
-        Sentences.terms("the least square of the way between its middle and that of a FIELD that is not of it, those"
-            + " one beyond the edge too (and 0, if it is not of it).");
+        Sentences.terms("DEEP of a FIELD of THE HEAP: the least square of the way between its middle and that of a"
+            + " FIELD that is not of it, those one beyond the edge too (and 0, if it is not of it).");
         due("no heap", new StraightSteps().deep(0), 0);
         due("not of it", Checks.heap("#.").deep(1), 0);
         due("the only FIELD", Checks.heap("#").deep(0), 1);
@@ -173,9 +173,8 @@ final class DeepEdges {
     }
 
     private static void looseAtLeastOne() {
-        Sentences.terms("hang together about one another, at least one, and those that are not of it and hang"
-            + " together beside by beside with one that is beside it, within the eight, are of one such part, at"
-            + " least one.");
+        Sentences.terms("at least one, and those that are not of it and hang together beside by beside with one that"
+            + " is beside it, within the eight, are of one such part, at least one.");
         middle(0, "...", ".#.", "...");
         middle(1, "..#", ".#.", "...");
         middle(1, "...", "##.", "...");

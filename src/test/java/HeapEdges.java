@@ -35,8 +35,8 @@ final class HeapEdges {
         due("has(63)", x.has(63), 0);
         due("heap(0)", x.heap(0), 0);
         due("the row stays", x.count(0), 1);
-        Sentences.terms("W by H FIELDS (1 .. 12 each; 8 by 8 at first), FIELD y W + x; THE HEAP is a set of them"
-            + " (none at first).");
+        Sentences.terms("THE GROUND: W by H FIELDS (1 .. 12 each; 8 by 8 at first), FIELD y W + x; THE HEAP is a set"
+            + " of them (none at first).");
         for (int w : new int[] {1, 2, 11, 12}) {
             for (int h : new int[] {1, 2, 11, 12}) {
                 StraightSteps y = new StraightSteps();

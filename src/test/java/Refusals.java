@@ -23,7 +23,8 @@ final class Refusals {
     }
 
     private static void constants() {
-        Sentences.name("The public face", "UNKNOWN = -1001, BAD = -1002, STATE = -1003, FULL = -1004, NONE = -999;");
+        Sentences.name("The public face", "public static final int UNKNOWN = -1001, BAD = -1002, STATE = -1003,"
+            + " FULL = -1004, NONE = -999;");
         due("UNKNOWN", StraightSteps.UNKNOWN, UNKNOWN);
         due("BAD", StraightSteps.BAD, BAD);
         due("STATE", StraightSteps.STATE, STATE);

@@ -53,6 +53,10 @@ final class RowEdges {
             due("call " + call, y.heap(3), 48);
         }
         due("call 512", y.deepest(false), 36);
+        Sentences.name("What it is", "what later calls answer is free");
+        for (int call = 513; call <= 2000; call++) {
+            Sentences.dueSo("but it ends with an answer", y.thinning() + y.step(call) > LEAST);
+        }
     }
 
     private static void newObject() {

@@ -1,12 +1,13 @@
 import java.io.IOException;
 import java.nio.file.Files;
 import java.nio.file.Path;
+import java.util.List;
 import java.util.Map;
 import java.util.TreeMap;
 
 /**
  * The document's own words: a boundary test first names the sentence that it holds the class to. What is
- * named must stand in the document, and of the promises each word must be named by some test.
+ * named must stand in the document, and of what it asks each word must be named by some test.
  */
 final class Sentences {
     static final int PROMISES = 31;
@@ -53,9 +54,21 @@ final class Sentences {
             return;
         }
         for (int number = 1; number <= PROMISES; number++) {
-            String left = NOT_NAMED.getOrDefault("Promise " + number, "?").replaceAll("[ .;,:]", "");
-            Checks.holds("Promise " + number + ": no test names \"" + left + "\"", left.isEmpty());
+            isNamed("Promise " + number);
         }
+        isNamed("What it is");
+        isNamed("The public face");
+        isNamed("Terms");
+    }
+
+    static List<String> linesOf(String section) {
+        return SECTIONS.getOrDefault(section, "").lines().map(String::strip).toList();
+    }
+
+    /** What is left may be stops, and the marks of parts and of text set apart. */
+    private static void isNamed(String section) {
+        String left = NOT_NAMED.getOrDefault(section, "?").replaceAll("=+ \\d|```text|```|[\\s.;,:]", "");
+        Checks.holds(section + ": no test names \"" + left + "\"", left.isEmpty());
     }
 
     /** The text of each section by its name; of a promise what stands behind the signature. */
